@@ -30,8 +30,8 @@ public final class GradualDesk {
     // A cast between equal types never shows, so it takes no cell and no frame. With that, a step
     // puts at most one value into a cast, and what a call or a FIRST adds to that are casts of
     // types less deep than those of 7 tokens, 3 levels at most: under 5000 cells and 30000 frames
-    // are ever in use, and where the room is looked at below, there always is some.
-    private static final int CELLS = 16384, FRAMES = 32768, SCOPES = 64;
+    // are ever in use, so there always is room.
+    private static final int CELLS = 8192, FRAMES = 32768, SCOPES = 64;
     private static final int MANY_TURNS = 1000000;
 
     private static final int WAY_DIGITS = 16, WHATS = 3;
@@ -255,7 +255,7 @@ public final class GradualDesk {
         int i = 0;
         int j = 0;
         int missing = 1;
-        while (i < TYPE_TOKENS && j < TYPE_TOKENS && missing > 0) {
+        for (int pair = 0; pair < TYPE_TOKENS && missing > 0; pair++) {
             int a = typeToken(s, i);
             int b = typeToken(t, j);
             if (a == ANY || b == ANY) {
@@ -342,8 +342,8 @@ public final class GradualDesk {
     private void findOperands() {
         for (int i = count - 1; i >= 0; i--) {
             int end = i + 1;
-            int arity = arity(kinds[i]);
-            for (int k = 0; k < arity; k++) {
+            int needed = arity(kinds[i]);
+            for (int k = 0; k < needed; k++) {
                 operands[MOST_OPERANDS * i + k] = end;
                 end = ends[end];
             }
@@ -359,8 +359,8 @@ public final class GradualDesk {
             return type == LARGE_TYPE ? LARGE : ILL;
         }
         types[i] = type;
-        int arity = arity(kind);
-        for (int k = 0; k < arity; k++) {
+        int needed = arity(kind);
+        for (int k = 0; k < needed; k++) {
             int at = MOST_OPERANDS * i + k;
             targets[at] = targetOf(i, k);
             if (!consistent(types[operands[at]], targets[at])) {
@@ -439,7 +439,8 @@ public final class GradualDesk {
     // Working out
 
     private void workOut() {
-        for (int turn = 0; turn < MANY_TURNS && mode != HALTED; turn++) {
+        ending = LONG;
+        for (int turn = 0; turn < MANY_TURNS && mode != HALTED && roomForTurn(); turn++) {
             switch (mode) {
                 case BEGIN: beginToken(); break;
                 case CALL: callOnce(); break;
@@ -447,6 +448,11 @@ public final class GradualDesk {
                 default: resumeFrame();
             }
         }
+    }
+
+    /** A turn takes one cell, one scope and two frames at most. */
+    private boolean roomForTurn() {
+        return cellCount < CELLS && scopeCount < SCOPES && frameCount < FRAMES - 1;
     }
 
     private void halt(int how) {
@@ -554,7 +560,6 @@ public final class GradualDesk {
     private void startTaking(int which) {
         frameCount = 0;
         side = which;
-        current &= ~TAGGED;
         mode = TAKE;
     }
 
@@ -608,12 +613,9 @@ public final class GradualDesk {
         return made;
     }
 
-    // Room
+    // Cells, scopes and frames: workOut has seen to it that there is room
 
     private int newCell(int shape, int one, int two) {
-        if (cellCount >= CELLS) {
-            return 0;
-        }
         int cell = cellCount;
         cellCount++;
         cellShape[cell] = shape;
@@ -624,9 +626,6 @@ public final class GradualDesk {
     }
 
     private int newScope(int with, int outer) {
-        if (scopeCount >= SCOPES) {
-            return 0;
-        }
         int made = scopeCount;
         scopeCount++;
         scopeValue[made] = with;
@@ -635,8 +634,7 @@ public final class GradualDesk {
     }
 
     private void pushFrame(int kind, int one, int two, int three) {
-        boolean idle = kind == CAST_FRAME && one == two;
-        if (idle || frameCount >= FRAMES) {
+        if (kind == CAST_FRAME && one == two) {
             return;
         }
         frameKind[frameCount] = kind;

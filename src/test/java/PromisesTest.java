@@ -285,7 +285,7 @@ public final class PromisesTest {
         isWrong(x, "AS:3 BOTH AS:9 NUM:1 NUM:1", GradualDesk.ILL, 0);
         isWrong(x, "ADD NUM:1 ADD VAR:3 TRUTH:1", GradualDesk.ILL, 3);
 
-        // Eight tokens are one too many, seven are not.
+        // Nine tokens are too many, seven are not; no type has eight.
         isWrong(x, "BOTH BOTH NUM:1 NUM:2 BOTH NUM:1 BOTH NUM:1 NUM:2", GradualDesk.LARGE, 0);
         isWrong(x, "LAM:2 LAM:2 LAM:0 NUM:1", GradualDesk.LARGE, 0);
         isWrong(x, "FIRST BOTH BOTH BOTH BOTH NUM:1 NUM:1 NUM:1 NUM:1 NUM:1", GradualDesk.LARGE, 1);
@@ -423,6 +423,13 @@ public final class PromisesTest {
         x.wipe();
         due("blamed() after wipe", x.blamed(), 1);
         ends(x, "NUM:1", GradualDesk.OK, 0, 1);
+        String[] notWorkedOut = {"NUM:1 NUM:1", "VAR:0", "BOTH LAM:4 NUM:1 NUM:1"};
+        for (String term : notWorkedOut) {
+            blames(x, "AS:1 AS:9 NUM:5", 1, 3);
+            draft(x, term);
+            x.run();
+            due("blamed() after a run of " + term, x.blamed(), 0);
+        }
     }
 
     private static void steps() {

@@ -652,16 +652,59 @@ public final class ReferenceTest {
             return sound(want, List.of(), 4 + random.nextInt(30));
         }
 
+        void checkAndRun() {
+            if (random.nextBoolean()) {
+                due("check()", desk.check(), model.check());
+            }
+            due("run()", desk.run(), model.run());
+            due("blamed()", desk.blamed(), model.blamed);
+            due("steps()", desk.steps(), model.steps);
+        }
+
+        // Functions called with themselves, in as many casts of deep types as there is room for:
+        // what takes the most casts in 40 steps.
+
+        List<int[]> inCasts(List<int[]> term, int casts) {
+            List<int[]> tokens = term;
+            for (int k = 0; k < casts; k++) {
+                tokens = tokens(AS, random.nextInt(6) == 0 ? 9 : random.nextInt(6), List.of(tokens));
+            }
+            return tokens;
+        }
+
+        List<int[]> variable(int casts) {
+            return inCasts(tokens(VAR, 0, List.of()), casts);
+        }
+
+        List<int[]> selfCall() {
+            int casts = random.nextInt(3);
+            List<int[]> call = tokens(APP, 0, List.of(variable(random.nextInt(1 + casts)), variable(random.nextInt(1 + casts))));
+            return tokens(LAM, random.nextInt(3) == 0 ? random.nextInt(6) : 9, List.of(inCasts(call, random.nextInt(2))));
+        }
+
+        void playTowers() {
+            String[] types = {"3332222", "3323222", "3232322", "3322322", "322", "33222"};
+            for (int n = 0; n < types.length; n++) {
+                for (char code : types[n].toCharArray()) {
+                    part(code - '0');
+                }
+                name(n);
+            }
+            while (calls < 400) {
+                List<int[]> f = inCasts(selfCall(), random.nextInt(4));
+                draft(tokens(APP, 0, List.of(f, inCasts(selfCall(), random.nextInt(18)))));
+                checkAndRun();
+                look(0, random.nextInt(3));
+            }
+        }
+
         void play() {
             for (int n = 0; n < 9; n++) {
                 define(n);
             }
             while (calls < 400) {
                 draft(random.nextInt(4) == 0 ? term(List.of(), 1 + random.nextInt(24)).tokens : soundTerm());
-                due("check()", desk.check(), model.check());
-                due("run()", desk.run(), model.run());
-                due("blamed()", desk.blamed(), model.blamed);
-                due("steps()", desk.steps(), model.steps);
+                checkAndRun();
                 for (int n = random.nextInt(16); n > 0; n--) {
                     ask();
                 }
@@ -678,7 +721,11 @@ public final class ReferenceTest {
         int wrong = 0;
         for (int seed = 0; seed < seeds && wrong < 5; seed++) {
             Player player = new Player(seed);
-            player.play();
+            if (seed % 8 == 0) {
+                player.playTowers();
+            } else {
+                player.play();
+            }
             wrong += player.wrong;
         }
         System.out.println(wrong == 0 ? "all answers are those of the model" : wrong + " answers are not those of the model");
