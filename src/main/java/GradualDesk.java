@@ -30,7 +30,8 @@ public final class GradualDesk {
     // A cast between equal types never shows, so it takes no cell and no frame. With that, a step
     // puts at most one value into a cast, and what a call or a FIRST adds to that are casts of
     // types less deep than those of 7 tokens, 3 levels at most: under 5000 cells and 30000 frames
-    // are ever in use, so there always is room.
+    // are ever in use, so there always is room. The most that a search for heavy terms has found
+    // are 234 cells, 488 frames and 974 turns.
     private static final int CELLS = 8192, FRAMES = 32768, SCOPES = 64;
     private static final int MANY_TURNS = 1000000;
 

@@ -388,6 +388,9 @@ public final class ReferenceTest {
 
         void due(String call, int got, int want) {
             calls++;
+            if (calls > 512) {
+                throw new IllegalStateException("more calls than are promised");
+            }
             told.add(call + " -> " + got);
             if (got != want) {
                 wrong++;
@@ -698,6 +701,30 @@ public final class ReferenceTest {
             }
         }
 
+        // What a search for the most turns, casts and waiting casts has found. The class has room
+        // for many times more of each: rule 8 of the language.
+
+        void playHeaviest(String term) {
+            String[] types = {"3332222", "3323222", "3232322", "3322322", "322", "33222", "32322"};
+            for (int n = 0; n < types.length; n++) {
+                for (char code : types[n].toCharArray()) {
+                    part(code - '0');
+                }
+                name(n);
+            }
+            for (String word : term.split(" ")) {
+                token("-tvlai+<bfs:".indexOf(word.charAt(0)), word.length() > 1 ? word.charAt(1) - '0' : 0);
+            }
+            due("check()", desk.check(), model.check());
+            for (int again = 0; again < 20; again++) {
+                checkAndRun();
+                for (int what = 0; what < 3; what++) {
+                    look(0, what);
+                    look(1, what);
+                }
+            }
+        }
+
         void play() {
             for (int n = 0; n < 9; n++) {
                 define(n);
@@ -716,9 +743,22 @@ public final class ReferenceTest {
         }
     }
 
+    private static final String[] HEAVIEST = {
+        "a l6 a a l6 a a a a v0 v0 v0 v0 v0 a v0 a v0 a v0 v0 v0 :1 :2 :1 :2 :1 :2 :1 :2 :1 :2 l4 v0",
+        "a l9 :6 a l6 a a v1 a v0 a v0 :2 a v0 v0 v0 :1 :2 :1 :2 :1 :2 :1 l4 v0 l5 a v0 a a v0 v0 v0",
+        "a l6 a a a a a v0 v0 a v0 v0 v0 a v0 v0 l4 v0 :1 :2 :0 :2 :0 :2 :0 :2 :1 :2 :1 :2 :0 :2 :0 l4 v0",
+        "a l5 a a a a v0 a a v0 v0 v0 v0 a v0 v0 l4 v0 :2 :0 :2 :0 :2 :1 :2 :1 :2 :0 :2 :0 :2 :0 :2 l9 v0",
+        "a l5 a v0 :1 v0 :1 :6 :1 :3 :1 :3 :1 :3 :1 l4 a v0 v0",
+        "a l9 a v0 v0 :1 :2 :1 :3 :1 :3 :1 :2 :1 :6 :1 :2 :1 l9 a v0 v0"};
+
     public static void main(String[] args) {
         int seeds = args.length > 0 ? Integer.parseInt(args[0]) : 4000;
         int wrong = 0;
+        for (String term : HEAVIEST) {
+            Player player = new Player(0);
+            player.playHeaviest(term);
+            wrong += player.wrong;
+        }
         for (int seed = 0; seed < seeds && wrong < 5; seed++) {
             Player player = new Player(seed);
             if (seed % 8 == 0) {
